@@ -420,10 +420,6 @@ public final class SluiceTurns {
         return crew == ALL_KINDS_CREW || crew == kind;
     }
 
-    private static int halfRoundedUp(int part) {
-        return (part + 1) / 2;
-    }
-
     /** What a field has got on trial beyond what it has now. */
     private int gain(int field) {
         return trial.fields.got[field] - now.fields.got[field];
@@ -451,8 +447,9 @@ public final class SluiceTurns {
             shift++;
         }
         long fraction = (part << shift) / whole;
-        long twiceTheRest = 2 * ((part << shift) % whole);
-        if (twiceTheRest > whole || twiceTheRest == whole && (fraction & 1) == 1) {
+        long rest = (part << shift) % whole;
+        // just between two floats there is none: that takes an odd factor of 25 bits in part
+        if (2 * rest > whole) {
             fraction++;
         }
         // a fraction that was rounded up to the next power of two carries into the exponent, as it should
@@ -656,7 +653,7 @@ public final class SluiceTurns {
         int give(int field, int water, int hour) {
             int taken = Math.min(water, Math.min(mouth[field], need[field] - got[field]));
             got[field] += taken;
-            if (!wants(field)) {
+            if (got[field] >= need[field]) {
                 hourOfNeed[field] = hour;
             }
             return taken;
@@ -687,17 +684,20 @@ public final class SluiceTurns {
             gates[size] = itsGates;
             hours[size] = itsHours;
             size++;
-            on = 0;
-            gone = 0;
+            beginAgain();
             return size;
         }
 
         int removeAll() {
             int removed = size;
             size = 0;
+            beginAgain();
+            return removed;
+        }
+
+        private void beginAgain() {
             on = 0;
             gone = 0;
-            return removed;
         }
 
         /** The gates that are open in the next hour that is run, of those that are open now. */
@@ -730,8 +730,8 @@ public final class SluiceTurns {
         /** Of each canal: the oldest right that calls at it, and below it through open gates. Not kept. */
         final int[] callAt = new int[MAX_CANALS];
         final int[] callBelow = new int[MAX_CANALS];
-        /** The canals at which, or below which, a field wants water. Not kept. */
-        int thirsty;
+        /** The gates that are open and of a kind that lets anything through, as a set. Not kept. */
+        int passing;
 
         void become(Terrace other) {
             canals.become(other.canals);
@@ -765,7 +765,7 @@ public final class SluiceTurns {
             hours++;
             // calls and wants that matter for a canal are below it, so they are all as before the hour there
             findCallsBelow();
-            findThirsty();
+            findPassingGates();
             Arrays.fill(canals.came, 0);
             canals.came[0] = Math.min(buckets, canals.width[0]);
             letIn += canals.came[0];
@@ -803,22 +803,23 @@ public final class SluiceTurns {
             return callBelow[fields.canal[field]] >= fields.right[field];
         }
 
-        void findThirsty() {
-            thirsty = 0;
+        void findPassingGates() {
+            int thirsty = 0;
             for (int field = 0; field < fields.size; field++) {
                 if (fields.wants(field)) {
                     thirsty |= 1 << fields.canal[field];
                 }
             }
+            passing = 0;
             for (int gate = canals.size - 1; gate > 0; gate--) {
-                if (isThirsty(gate)) {
+                boolean isThirsty = (thirsty & 1 << gate) != 0;
+                if (isThirsty) {
                     thirsty |= 1 << canals.parent[gate];
                 }
+                if (canals.isOpen(gate) && (canals.kind[gate] != FLOAT || isThirsty)) {
+                    passing |= 1 << gate;
+                }
             }
-        }
-
-        boolean isThirsty(int canal) {
-            return (thirsty & 1 << canal) != 0;
         }
 
         int seepAway(int canal, int water) {
@@ -844,7 +845,7 @@ public final class SluiceTurns {
         int partAmongGates(int canal, int water) {
             int gates = 0;
             for (int gate = canal + 1; gate < canals.size; gate++) {
-                if (canals.parent[gate] == canal && letsThrough(gate)) {
+                if (isPassingFrom(canal, gate)) {
                     gates++;
                 }
             }
@@ -855,7 +856,7 @@ public final class SluiceTurns {
             int over = water % gates;
             int through = 0;
             for (int gate = canal + 1; gate < canals.size; gate++) {
-                if (canals.parent[gate] == canal && letsThrough(gate)) {
+                if (isPassingFrom(canal, gate)) {
                     canals.came[gate] = throughGate(gate, over > 0 ? part + 1 : part);
                     through += canals.came[gate];
                     over--;
@@ -864,12 +865,12 @@ public final class SluiceTurns {
             return through;
         }
 
-        boolean letsThrough(int gate) {
-            return canals.isOpen(gate) && (canals.kind[gate] != FLOAT || isThirsty(gate));
+        boolean isPassingFrom(int canal, int gate) {
+            return canals.parent[gate] == canal && (passing & 1 << gate) != 0;
         }
 
         int throughGate(int gate, int part) {
-            int ofItsKind = canals.kind[gate] == SCREW ? halfRoundedUp(part) : part;
+            int ofItsKind = canals.kind[gate] == SCREW ? (part + 1) / 2 : part;
             return Math.min(ofItsKind, canals.width[gate]);
         }
 
