@@ -2,8 +2,11 @@ import java.util.Random;
 
 /** Runs of calls drawn by fixed seeds, each answer held against that of the model. */
 public final class ModelTest {
-    private static final int RUNS = 120;
+    private static final int RUNS = 240;
+    /** The document asks nothing of an object behind its 512th call. */
     private static final int CALLS = 512;
+    private static final int CALLS_OF_WHOLE = 16 + 10 * 21;
+    private static final int LONGEST_STEP = 10;
     private static final String SIGNS = "ocyhr0123456789,;;  x";
 
     private final Random random;
@@ -31,14 +34,18 @@ public final class ModelTest {
         program = new SluiceTurns();
         model = new TerraceModel();
         int building = random.nextInt(40);
-        while (calls < CALLS) {
+        boolean isAskedForAll = seed % 2 == 1;
+        int end = CALLS - LONGEST_STEP - (isAskedForAll ? CALLS_OF_WHOLE : 0);
+        while (calls <= end) {
             if (calls < building || random.nextInt(60) == 0) {
                 build();
             } else {
                 step(random.nextInt(100));
             }
         }
-        whole();
+        if (isAskedForAll) {
+            whole();
+        }
     }
 
     private void due(String call, int want, int got) {

@@ -1,8 +1,9 @@
-/** All that an object tells of itself, but its history and its text. */
+/** All that an object tells of itself, in some 200 calls. */
 final class PictureOf {
     private PictureOf() {
     }
 
+    /** All of the state; the numbers of the history and of the text are left out. */
     static String object(SluiceTurns x) {
         StringBuilder picture = new StringBuilder();
         for (int what = 0; what < 14; what++) {
@@ -23,6 +24,16 @@ final class PictureOf {
         }
         for (int place = 0; place < 10; place++) {
             picture.append(x.rightAt(place)).append(' ');
+        }
+        return picture.toString();
+    }
+
+    /** The state, and what is told of the history and the text. */
+    static String objectWithAll(SluiceTurns x) {
+        StringBuilder picture = new StringBuilder(object(x));
+        picture.append("states ").append(x.count(14)).append(" text ").append(x.count(15));
+        for (int what = 0; what < 3; what++) {
+            picture.append(' ').append(x.fault(what));
         }
         return picture.toString();
     }

@@ -39,7 +39,6 @@ public final class PromisesTest {
         promise21RightAt();
         promise22Count();
         promise23Undo();
-        promise23UndoOfEachChange();
         promise24Type();
         promise25ClearText();
         promise26FaultForm();
@@ -646,10 +645,12 @@ public final class PromisesTest {
         Due.is("16 one", 0x3F800000, x.share(1));
         Due.is("16 nought ran off", 0, x.share(2));
         for (int buckets = 2; buckets < 120; buckets++) {
-            x.hour(buckets);
+            SluiceTurns y = new SluiceTurns();
+            y.field(0, 999, 17, 0);
+            y.run(1 + buckets % 90, buckets);
             for (int what = 0; what < 3; what++) {
-                float share = (float) x.count(8 + what) / (float) x.count(7);
-                Due.is("16 share", Float.floatToIntBits(share), x.share(what));
+                float share = (float) y.count(8 + what) / (float) y.count(7);
+                Due.is("16 share", Float.floatToIntBits(share), y.share(what));
             }
         }
     }
@@ -886,45 +887,6 @@ public final class PromisesTest {
         Due.is("23 the new canal", 77, x.canalOf(3, 2));
         Due.is("23 undo is no change", 0, x.undo());
         Due.is("23 canals", 3, x.count(0));
-    }
-
-    /** Each of the twelve changes, told of by all numbers before and behind it. */
-    private static void promise23UndoOfEachChange() {
-        SluiceTurns x = new SluiceTurns();
-        x.canal(0, 0, 100, 10);
-        x.canal(1, 2, 100, 10);
-        x.field(0, 300, 10, 5);
-        x.field(2, 300, 10, 4);
-        x.tend(0, 1);
-        x.turn(6, 2);
-        x.turn(2, 2);
-        x.run(3, 100);
-        x.tend(2, 2);
-        for (int change = 0; change < 12; change++) {
-            String before = PictureOf.object(x);
-            makeChange(x, change);
-            Due.holds("23 change " + change + " is recorded", x.count(14) == 4);
-            Due.is("23 undo of change " + change, 3, x.undo());
-            Due.holds("23 as before change " + change, before.equals(PictureOf.object(x)));
-            makeChange(x, change);
-        }
-    }
-
-    private static void makeChange(SluiceTurns x, int change) {
-        switch (change) {
-            case 0: x.canal(0, 1, 50, 5); break;
-            case 1: x.field(1, 20, 5, 9); break;
-            case 2: x.tend(1, 3); break;
-            case 3: x.open(3); break;
-            case 4: x.close(3); break;
-            case 5: x.leave(3); break;
-            case 6: x.call(1); break;
-            case 7: x.hour(99); break;
-            case 8: x.run(7, 150); break;
-            case 9: x.turn(8, 9); break;
-            case 10: x.play(); break;
-            default: x.noTurns(); break;
-        }
     }
 
     private static void promise24Type() {
