@@ -33,7 +33,11 @@ abstract class Sentences {
     static void test(String sentence, Consumer<SluiceTurns> calls) {
         words = sentence;
         TESTED.get(chapter).add(sentence);
-        calls.accept(new SluiceTurns());
+        try {
+            calls.accept(new SluiceTurns());
+        } catch (RuntimeException e) {
+            Due.holds(place() + "does not throw " + e, false);
+        }
     }
 
     /** The sentences that have a test, by the titles of their chapters. */
@@ -42,11 +46,15 @@ abstract class Sentences {
     }
 
     static void due(long want, long got) {
-        Due.is(want == got ? "" : "[" + chapter + " | " + words + "] line " + lineOfTest(), want, got);
+        Due.is(want == got ? "" : place() + "line " + lineOfTest(), want, got);
     }
 
     static void dueSame(String want, String got) {
         due(1, want.equals(got) ? 1 : 0);
+    }
+
+    private static String place() {
+        return "[" + chapter + " | " + words + "] ";
     }
 
     private static int lineOfTest() {

@@ -175,6 +175,43 @@ final class SentencesOfChanges extends Sentences {
             due(1, x.count(15));
             due(0, x.fault(0));
         });
+        test("each change records everything before it", x -> {
+            // the last of all canals, fields and turns too
+            many(x);
+            SluiceTurns before = new SluiceTurns();
+            many(before);
+            write(x, "r2,200;");
+            x.play();
+            x.noTurns();
+            x.leave(7);
+            x.undo();
+            x.undo();
+            x.undo();
+            dueSame(PictureOf.object(before), PictureOf.object(x));
+        });
+        test("records everything before it", x -> {
+            // what is built anew behind undo has nothing of what was there before
+            planks(x, 6);
+            fields(x, 0, 9);
+            x.canal(0, SCREW, 9, 100);
+            x.tend(1, 7);
+            x.open(7);
+            x.hour(200);
+            due(9, x.canalOf(7, 7));
+            dueUndone(x, 4, 0);
+            due(7, x.canal(0, PLANK, 9, 0));
+            due(NOT_FOUND, x.canalOf(7, 5));
+            due(0, x.canalOf(7, 4));
+            due(0, x.canalOf(7, 7) + x.canalOf(7, 8) + x.canalOf(7, 9));
+            x.field(7, 5, 5, 5);
+            x.call(9);
+            x.hour(200);
+            dueUndone(x, 3, 1);
+            due(9, x.field(0, 5, 5, 60));
+            due(0, x.fieldOf(9, 4) + x.fieldOf(9, 5));
+            due(0, x.rightAt(0));
+            due(9, x.rightAt(9));
+        });
         test("and if there are 5 states then, the oldest one is dropped.", x -> {
             for (int width = 1; width <= 4; width++) {
                 x.canal(0, PLANK, width, 0);
@@ -207,6 +244,27 @@ final class SentencesOfChanges extends Sentences {
             }
             due(NOT_POSSIBLE, x.undo());
         });
+    }
+
+    private static void dueUndone(SluiceTurns x, int changes, int left) {
+        for (int i = changes - 1; i >= 0; i--) {
+            due(left + i, x.undo());
+        }
+    }
+
+    /** All canals, fields and turns are there, and the last ones of them matter. */
+    private static void many(SluiceTurns x) {
+        planks(x, 5);
+        fields(x, 0, 9);
+        for (int turn = 0; turn < 7; turn++) {
+            x.turn(0, 1);
+        }
+        x.canal(4, PLANK, 300, 0);
+        x.canal(5, SCREW, 300, 100);
+        x.field(7, 20, 15, 3);
+        x.turn(32 + 128, 20);
+        x.tend(1, 7);
+        x.run(8, 100);
     }
 
     /** All canals, fields and turns are there, crew 2 tends two gates, and there were 20000 hours. */

@@ -172,6 +172,24 @@ final class SentencesOfHours extends Sentences {
             due(40, x.would(6, 200, 0));
             due(2, x.count(4));
         });
+        test("what an hour would bring,", x -> {
+            // at the last ones of all canals and fields as well
+            planks(x, 6);
+            x.canal(6, SCREW, 500, 100);
+            fields(x, 0, 9);
+            x.field(7, 99, 15, 51);
+            x.call(9);
+            due(9, x.would(64, 200, 0));
+            due(0, x.would(128, 200, 19));
+            due(9 + 15, x.would(64 + 128, 200, 0));
+            due(1, x.would(64 + 128, 200, 18));
+            due(15, x.would(64 + 128, 200, 19));
+            // 181 come into the canal 6 and to the screw, which lets 91 through
+            due(10 + 10, x.would(64 + 128, 200, 1));
+            due(90 + 66, x.would(64 + 128, 200, 2));
+            x.hour(200);
+            due(9, x.count(8));
+        });
         test("gates: a set of gates", x -> {
             due(0, x.would(0, 9, 0));
             due(INVALID, x.would(2, 9, 0));
@@ -439,6 +457,20 @@ final class SentencesOfHours extends Sentences {
             due(6, x.run(7, 200));
             due(0, x.count(2));
             due(0, x.hoursFor(200));
+        });
+        test("(with turns, as run() does)", x -> {
+            // the last one of eight turns matters as well
+            planks(x, 1);
+            x.field(1, 10, 5, 0);
+            for (int turn = 0; turn < 7; turn++) {
+                x.turn(0, 1);
+            }
+            x.turn(2, 2);
+            due(9, x.hoursFor(200));
+            x.run(8, 200);
+            due(1, x.hoursFor(200));
+            x.run(1, 200);
+            due(9, x.fieldOf(0, 7));
         });
         test("buckets: 0 to 999 in each hour", x -> {
             x.field(0, 380, 200, 0);

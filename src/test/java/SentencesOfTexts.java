@@ -242,6 +242,8 @@ final class SentencesOfTexts extends Sentences {
             dueFault(x, "r10,1;h1;", 6, 3, NOT_FOUND);
             dueFault(x, "r10,1;r1,0;", 6, 3, NOT_FOUND);
             dueNoFault(x, "r9,1;h0;");
+            dueNoFault(x, "r9,1;h999;");
+            dueFault(x, "r10,1;h0;", 6, 3, NOT_FOUND);
         });
         test("when those ahead of it are done.", x -> {
             terrace(x);
@@ -436,6 +438,13 @@ final class SentencesOfTexts extends Sentences {
             due(NOT_POSSIBLE, x.play());
             x.undo();
             due(10, x.play());
+            write(x, "h0;r9,20;");
+            fields(x, 0, 8);
+            x.field(0, 1, 1, 0);
+            // the field 0 gets all its need by its call, but one bucket goes to the field 9, as old as it
+            due(89 + 1, x.play());
+            due(3, x.fieldOf(9, 7));
+            due(11, x.fieldOf(0, 7));
         });
         test("They are one change, also if there are none.", x -> {
             due(0, x.play());

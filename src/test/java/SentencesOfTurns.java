@@ -123,10 +123,13 @@ final class SentencesOfTurns extends Sentences {
             x.run(3, 20);
             due(4, x.count(4));
             due(19, x.canalOf(2, 7));
-            x.turn(2, 1);
+            x.turn(2, 20);
+            x.run(1, 0);
+            due(2, x.count(4));
             x.noTurns();
             x.run(1, 20);
-            due(4, x.count(4));
+            due(2, x.count(4));
+            dueOn(x, NOT_FOUND, 0);
         });
     }
 

@@ -177,6 +177,19 @@ final class SentencesOfWater extends Sentences {
             due(190, x.canalOf(1, 7));
             due(0, x.canalOf(2, 7));
         });
+        test("if no field at its canal", x -> {
+            // each float for its own fields, be it one or two that want water
+            x.canal(0, FLOAT, 500, 0);
+            x.canal(0, FLOAT, 500, 0);
+            x.canal(0, FLOAT, 500, 0);
+            x.field(1, 99, 1, 0);
+            x.field(1, 99, 1, 0);
+            x.field(2, 99, 1, 0);
+            hourWith(x, 14, 200);
+            due(95, x.canalOf(1, 7));
+            due(95, x.canalOf(2, 7));
+            due(0, x.canalOf(3, 7));
+        });
         test("just then.", x -> {
             x.canal(0, FLOAT, 500, 0);
             x.canal(1, FLOAT, 500, 0);
@@ -325,10 +338,17 @@ final class SentencesOfWater extends Sentences {
             int[] of124 = {0, 1, 1, 2, 31, 62, 62};
             int[] of125 = {0, 1, 1, 2, 32, 63, 63};
             int[] of126 = {0, 1, 2, 2, 32, 63, 63};
+            int[] of1 = {0, 1, 1, 1, 1, 1, 1};
+            int[] of2 = {0, 1, 1, 1, 1, 1, 1};
+            int[] of3 = {0, 1, 1, 1, 1, 2, 2};
             for (int i = 0; i < seepage.length; i++) {
                 due(of124[i] + 7, x.would(2 << i, 131, 1));
                 due(of125[i] + 7, x.would(2 << i, 132, 1));
                 due(of126[i] + 7, x.would(2 << i, 133, 1));
+                due(1, x.would(2 << i, 1, 1));
+                due(of1[i] + 1, x.would(2 << i, 2, 1));
+                due(of2[i] + 1, x.would(2 << i, 3, 1));
+                due(of3[i] + 1, x.would(2 << i, 4, 1));
             }
         });
     }
@@ -414,6 +434,23 @@ final class SentencesOfWater extends Sentences {
             due(0, x.would(2 + 4 + 8, 200, 10));
             due(5, x.would(2 + 4 + 8, 200, 11));
             due(5, x.would(2 + 4 + 8, 200, 12));
+        });
+        test("if a field that calls", x -> {
+            // the first one and the last one of ten call as well as those between them
+            planks(x, 1);
+            x.field(1, 99, 1, 0);
+            x.field(0, 99, 5, 50);
+            fields(x, 1, 7);
+            x.field(1, 99, 1, 0);
+            due(5, x.would(2, 200, 11));
+            x.call(0);
+            due(0, x.would(2, 200, 11));
+            x.undo();
+            x.call(9);
+            due(0, x.would(2, 200, 11));
+            x.call(0);
+            due(0, x.would(2, 200, 11));
+            due(5, x.would(0, 200, 11));
         });
         test("and is at a canal below this one", x -> {
             chain(x, 2);
