@@ -119,7 +119,7 @@ public final class SluiceTurns {
             return NOT_POSSIBLE;
         }
         history.record(now);
-        return now.canals.moveGate(gate);
+        return now.canals.flipGate(gate);
     }
 
     public int close(int gate) {
@@ -130,7 +130,7 @@ public final class SluiceTurns {
             return NOT_POSSIBLE;
         }
         history.record(now);
-        return now.canals.moveGate(gate);
+        return now.canals.flipGate(gate);
     }
 
     public int call(int field) {
@@ -266,7 +266,7 @@ public final class SluiceTurns {
             case 0: return trial.got - now.got;
             case 1: return trial.seeped - now.seeped;
             case 2: return trial.ranOff - now.ranOff;
-            default: return gain(what - WOULD_OF_FIELD);
+            default: return gainOnTrial(what - WOULD_OF_FIELD);
         }
     }
 
@@ -294,7 +294,7 @@ public final class SluiceTurns {
         for (int buckets = 0; buckets <= FIRST_WIDTH; buckets++) {
             trial.become(now);
             trial.passHour(buckets);
-            if (gain(field) > 0) {
+            if (gainOnTrial(field) > 0) {
                 return buckets;
             }
         }
@@ -384,7 +384,7 @@ public final class SluiceTurns {
             return INVALID_ARGUMENT;
         }
         trial.become(now);
-        orders.carryOutAll(trial);
+        orders.carryOutToFault(trial);
         if (orders.reason == NO_FAULT) {
             return NOT_FOUND;
         }
@@ -397,7 +397,7 @@ public final class SluiceTurns {
 
     public int play() {
         trial.become(now);
-        int got = orders.carryOutAll(trial);
+        int got = orders.carryOutToFault(trial);
         if (orders.reason != NO_FAULT) {
             return NOT_POSSIBLE;
         }
@@ -420,8 +420,7 @@ public final class SluiceTurns {
         return crew == ALL_KINDS_CREW || crew == kind;
     }
 
-    /** What a field has got on trial beyond what it has now. */
-    private int gain(int field) {
+    private int gainOnTrial(int field) {
         return trial.fields.got[field] - now.fields.got[field];
     }
 
@@ -457,7 +456,7 @@ public final class SluiceTurns {
         return (exponent << FRACTION_BITS) + (int) (fraction - (1L << FRACTION_BITS));
     }
 
-    /** The canals with their gates: a row for each thing that is told of a canal. */
+    /** Rows of numbers, not an object for each canal: so a state is copied into another one and nothing is made. */
     private static final class Canals {
         int size = 1;
         int open;
@@ -533,8 +532,7 @@ public final class SluiceTurns {
             return isTended(gate) && isOpen(gate);
         }
 
-        /** Opens a closed gate, closes an open one; returns the set of open gates. */
-        int moveGate(int gate) {
+        int flipGate(int gate) {
             open ^= 1 << gate;
             return open;
         }
@@ -559,9 +557,9 @@ public final class SluiceTurns {
             return gates;
         }
 
-        /** The canals below one, as a set: a parent always has a lesser number than its branches. */
         int below(int canal) {
             int reached = 1 << canal;
+            // a parent has a lesser number than its branches, so one pass by the numbers reaches all
             for (int branch = canal + 1; branch < size; branch++) {
                 if ((reached & 1 << parent[branch]) != 0) {
                     reached |= 1 << branch;
@@ -571,7 +569,6 @@ public final class SluiceTurns {
         }
     }
 
-    /** The fields: a row for each thing that is told of a field. */
     private static final class Fields {
         int size;
         int calling;
@@ -581,7 +578,7 @@ public final class SluiceTurns {
         final int[] right = new int[MAX_FIELDS];
         final int[] got = new int[MAX_FIELDS];
         final int[] hourOfNeed = new int[MAX_FIELDS];
-        /** The fields' numbers, the oldest right first, of several the lowest number. */
+        /** The fields' numbers as they are served: rights never change, so each is put in its place but once. */
         final int[] byRight = new int[MAX_FIELDS];
 
         void become(Fields other) {
@@ -624,7 +621,6 @@ public final class SluiceTurns {
             return got[field] < need[field];
         }
 
-        /** The fields that want water, as a set. */
         int wanting() {
             int set = 0;
             for (int field = 0; field < size; field++) {
@@ -643,13 +639,11 @@ public final class SluiceTurns {
             return wants(field) && !calls(field);
         }
 
-        /** Lets a field call; returns how many call then. */
         int beginCall(int field) {
             calling |= 1 << field;
             return Integer.bitCount(calling);
         }
 
-        /** Gives a field of some water what it can take in an hour; returns how much that is. */
         int give(int field, int water, int hour) {
             int taken = Math.min(water, Math.min(mouth[field], need[field] - got[field]));
             got[field] += taken;
@@ -660,7 +654,6 @@ public final class SluiceTurns {
         }
     }
 
-    /** The row of turns, which of them is on, and how many of its hours have gone by. */
     private static final class Turns {
         int size;
         int on;
@@ -700,9 +693,9 @@ public final class SluiceTurns {
             gone = 0;
         }
 
-        /** The gates that are open in the next hour that is run, of those that are open now. */
-        int gatesFor(int open) {
-            return size > 0 && gone == 0 ? gates[on] : open;
+        int gatesInNextHour(int openNow) {
+            // behind the first hour of a turn its gates may have been moved by hand
+            return size > 0 && gone == 0 ? gates[on] : openNow;
         }
 
         void goOn() {
@@ -717,7 +710,7 @@ public final class SluiceTurns {
         }
     }
 
-    /** All that a state of the history keeps, and how the water goes. */
+    /** All that a state of the history keeps: not the text, which undo() leaves as it is. */
     private static final class Terrace {
         final Canals canals = new Canals();
         final Fields fields = new Fields();
@@ -727,10 +720,10 @@ public final class SluiceTurns {
         int got;
         int seeped;
         int ranOff;
-        /** Of each canal: the oldest right that calls at it, and below it through open gates. Not kept. */
+        /** The oldest right that calls at a canal, and below it through open gates: found anew, so never copied. */
         final int[] callAt = new int[MAX_CANALS];
         final int[] callBelow = new int[MAX_CANALS];
-        /** The gates that are open and of a kind that lets anything through, as a set. Not kept. */
+        /** The gates that let anything through in the hour: found anew, so never copied. */
         int passing;
 
         void become(Terrace other) {
@@ -748,18 +741,16 @@ public final class SluiceTurns {
             return more <= MAX_HOURS - hours;
         }
 
-        /** Runs hours with turns; returns what the fields get. */
         int runHours(int number, int buckets) {
             int gotBefore = got;
             for (int i = 0; i < number; i++) {
-                canals.open = turns.gatesFor(canals.open);
+                canals.open = turns.gatesInNextHour(canals.open);
                 passHour(buckets);
                 turns.goOn();
             }
             return got - gotBefore;
         }
 
-        /** Lets an hour go by with the gates as they are; returns what the fields get. */
         int passHour(int buckets) {
             int gotBefore = got;
             hours++;
@@ -798,7 +789,7 @@ public final class SluiceTurns {
             }
         }
 
-        /** Whether no older right calls below; findCallsBelow() goes ahead of it. */
+        /** Rests on findCallsBelow(), which goes ahead of it once for all fields. */
         boolean mayTake(int field) {
             return callBelow[fields.canal[field]] >= fields.right[field];
         }
@@ -841,7 +832,6 @@ public final class SluiceTurns {
             return water - left;
         }
 
-        /** Lets water through to the branches of a canal; returns how much goes through. */
         int partAmongGates(int canal, int water) {
             int gates = 0;
             for (int gate = canal + 1; gate < canals.size; gate++) {
@@ -879,7 +869,7 @@ public final class SluiceTurns {
         }
     }
 
-    /** The latest states, the oldest one first. */
+    /** States made once and written over, so that a change makes no object. */
     private static final class History {
         int size;
         final Terrace[] states = new Terrace[MAX_STATES];
@@ -907,7 +897,6 @@ public final class SluiceTurns {
             size = MAX_STATES - 1;
         }
 
-        /** Takes the latest state away; returns how many are left. */
         int restoreLatest(Terrace terrace) {
             if (size > 0) {
                 size--;
@@ -917,7 +906,7 @@ public final class SluiceTurns {
         }
     }
 
-    /** The text, and how its orders are read and carried out. */
+    /** The text: orders are carried out while they are read, as whether one is possible depends on those ahead. */
     private static final class Orders {
         int length;
         final int[] characters = new int[MAX_TEXT];
@@ -937,8 +926,7 @@ public final class SluiceTurns {
             return length;
         }
 
-        /** Carries the orders out up to the first fault; returns what the fields get by them. */
-        int carryOutAll(Terrace terrace) {
+        int carryOutToFault(Terrace terrace) {
             int got = 0;
             place = 0;
             reason = NO_FAULT;
@@ -953,9 +941,9 @@ public final class SluiceTurns {
             return got;
         }
 
-        /** Reads the next order; returns the reason why it can't be done, or NO_FAULT. */
         private int reasonAgainst(Terrace terrace) {
             if (!readOrder()) {
+                // the reading stands where the order breaks off
                 cause = place - start;
                 return NOT_OF_FORM;
             }
@@ -967,7 +955,6 @@ public final class SluiceTurns {
             return isPossible(terrace) ? NO_FAULT : NOT_DOABLE;
         }
 
-        /** Whether an order of the form begins at start; the place is behind it then, or where it breaks off. */
         private boolean readOrder() {
             letter = characterAt(place);
             if (letter != 'o' && letter != 'c' && letter != 'y' && letter != 'h' && letter != 'r') {
@@ -1012,8 +999,8 @@ public final class SluiceTurns {
             return true;
         }
 
-        /** The character at a place; 0, which can't be typed, behind the end. */
         private int characterAt(int where) {
+            // 0 can't be typed, so behind the end there is no character that an order asks for
             return where >= 0 && where < length ? characters[where] : 0;
         }
 
@@ -1037,12 +1024,11 @@ public final class SluiceTurns {
             }
         }
 
-        /** Carries out the order that was read; returns what the fields get by it. */
         private int carryOut(Terrace terrace) {
             switch (letter) {
                 case 'o':
                 case 'c':
-                    terrace.canals.moveGate(first);
+                    terrace.canals.flipGate(first);
                     return 0;
                 case 'y':
                     terrace.fields.beginCall(first);

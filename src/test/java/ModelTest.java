@@ -7,6 +7,8 @@ public final class ModelTest {
     private static final int CALLS = 512;
     private static final int CALLS_OF_WHOLE = 16 + 10 * 21;
     private static final int LONGEST_STEP = 10;
+    private static final int MOST_HOURS = 20000;
+    private static final int MOST_HOURS_OF_RUN = 100;
     private static final String SIGNS = "ocyhr0123456789,;;  x";
 
     private final Random random;
@@ -36,6 +38,9 @@ public final class ModelTest {
         int building = random.nextInt(40);
         boolean isAskedForAll = seed % 2 == 1;
         int end = CALLS - LONGEST_STEP - (isAskedForAll ? CALLS_OF_WHOLE : 0);
+        if (seed % 40 == 38) {
+            growOld(building);
+        }
         while (calls <= end) {
             if (calls < building || random.nextInt(60) == 0) {
                 build();
@@ -45,6 +50,19 @@ public final class ModelTest {
         }
         if (isAskedForAll) {
             whole();
+        }
+    }
+
+    /** Runs a built terrace nearly as long as it can be run, so that limits and large accounts are met behind that. */
+    private void growOld(int building) {
+        while (calls < building) {
+            build();
+        }
+        int hoursLeft = number(1, 20);
+        while (model.count(6) < MOST_HOURS - hoursLeft) {
+            int hours = Math.min(MOST_HOURS_OF_RUN, MOST_HOURS - hoursLeft - model.count(6));
+            int b = buckets();
+            due("run " + hours + " " + b, model.run(hours, b), program.run(hours, b));
         }
     }
 
